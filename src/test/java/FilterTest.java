@@ -9,6 +9,7 @@ public final class FilterTest {
         paths();
         conditionNames();
         conditionValues();
+        deepFilters();
         severalFaults();
         tooMany();
         Check.end();
@@ -170,6 +171,25 @@ public final class FilterTest {
         expect(on("$not", Doc.of("$eq", 1, "b", 1)), 1);
         expect(on("$not", Doc.of("$not", Doc.of("$not", Doc.of("b", 1)))), 4);
         expect(on("$not", Doc.of("$not", Doc.of("$not", Doc.of("$lt", 1)))), 0);
+    }
+
+    /** A filter within that is 16 deep. */
+    private static Doc deep(String name, Object value) {
+        Doc within = Doc.of("$elem", Doc.of(name, value));
+        for (int i = 0; i < 13; i++) {
+            within = i % 2 == 0 ? Doc.of("$not", within) : Doc.of("$elem", within);
+        }
+        return Doc.of("a", within);
+    }
+
+    private static void deepFilters() {
+        expect(deep("b", 1), 0);
+        expect(deep("$eq", 1), 0);
+        expect(deep("$x", 1), 1);
+        expect(deep("$or", 1), 2);
+        expect(deep("", 1), 3);
+        expect(deep("$in", 1), 4);
+        expect(deep("b", Doc.of()), -1);
     }
 
     private static void severalFaults() {

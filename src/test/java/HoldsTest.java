@@ -457,6 +457,30 @@ public final class HoldsTest {
         expect(Doc.of("0", Doc.of("$elem", Doc.of("0.0.0.0.0.0.0", 1))), documents, true);
         expect(Doc.of("0", Doc.of("$elem", Doc.of("0.0.0.0.0.0.0", 2))), documents, false);
         expect(joins, Doc.of("0", 1), true);
+        filterAndDocumentAtTheirDeepest();
         expect(joins, documents, false);
+    }
+
+    /** A filter 16 deep, whose last conditions look at the deepest value of a document. */
+    private static void filterAndDocumentAtTheirDeepest() {
+        Object value = 7;
+        Doc conditions = Doc.of("$not", Doc.of("$gt", 7, "$lt", 9));
+        for (int i = 0; i < 13; i++) {
+            value = Doc.row(value);
+            conditions = Doc.of("$elem", conditions);
+        }
+        expect(Doc.of("a", conditions), Doc.of("a", value), true);
+        Object other = Doc.row(8);
+        for (int i = 0; i < 12; i++) {
+            other = Doc.row(other);
+        }
+        expect(Doc.of("a", conditions), Doc.of("a", other), false);
+        Doc filter = Doc.of("0.0", 7);
+        Doc document = Doc.of("0", Doc.row(7));
+        for (int i = 0; i < 7; i++) {
+            filter = Doc.of("0", Doc.of("$elem", filter));
+            document = Doc.of("0", Doc.row(document));
+        }
+        expect(filter, document, true);
     }
 }

@@ -172,6 +172,8 @@ public final class ReadTest {
         expect("a text whose last is not 0", around(2, 'a', 0, 3, 0, 0, 0, 0, 'x', 1), -1);
         expect("a text of one byte more", around(2, 'a', 0, 3, 0, 0, 0, 'x', 'y'), -1);
         expect("a text up to the last 0", around(2, 'a', 0, 2, 0, 0, 0, 'x'), -1);
+        expect("a text whose last begins an element", around(2, 'a', 0, 1, 0, 0, 0, 10, 'b', 0), -1);
+        expect("a text of wrong UTF-8 that is an element", around(2, 'a', 0, 4, 0, 0, 0, 10, 0xc3, 0, 0), -1);
         expect("a text of wrong UTF-8", around(2, 'a', 0, 2, 0, 0, 0, 0x80, 0), -1);
         expect("a text cut in a character", around(2, 'a', 0, 2, 0, 0, 0, 0xc3, 0), -1);
     }
