@@ -7,6 +7,7 @@ public final class FilterReader {
     private static final int FILTERS = 4;
     private static final int TAPE_BYTES = 2000;
     private static final int FEED_BYTES = 20;
+    // What is read lies no deeper, so every recursion over documents and filters may end there.
     private static final int MAX_DEPTH = 16;
     private static final int MAX_STEPS = 8;
     private static final int MAX_RULES = 100;
