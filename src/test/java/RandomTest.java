@@ -9,14 +9,18 @@ public final class RandomTest {
         "$elem", "$not", "$elem", "$not"};
     private static final String[] JOINS = {"$and", "$or", "$nor"};
 
-    private final Random random = new Random(20261115);
+    private final Random random;
     private int faultsPerMille;
     private int ones;
     private int zeros;
     private final int[] faults = new int[6];
 
+    RandomTest(int seed) {
+        random = new Random(seed);
+    }
+
     public static void main(String[] args) {
-        RandomTest test = new RandomTest();
+        RandomTest test = new RandomTest(20261115);
         for (int i = 0; i < 6000; i++) {
             test.askFilters();
         }
@@ -82,6 +86,16 @@ public final class RandomTest {
             int kept = Check.filter(x, 1, Doc.of("$and", Doc.row(Doc.of("a", first(parsed)))));
             Check.due("the a of " + parsed, kept == 0 ? x.holds(1, 0) : -9, 1);
         }
+    }
+
+    /** A document or a filter, sometimes a wrong one. */
+    byte[] someBytes(boolean filter) {
+        faultsPerMille = random.nextInt(4) == 0 ? 60 : 0;
+        byte[] bytes = (filter ? filter(3) : document(4)).bytes();
+        if (random.nextInt(8) == 0) {
+            bytes[random.nextInt(bytes.length)] += random.nextInt(5) - 2;
+        }
+        return bytes;
     }
 
     private static Object first(Doc document) {
