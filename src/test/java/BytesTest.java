@@ -147,6 +147,14 @@ public final class BytesTest {
         reads("a name", 0, 10, 'a', 0);
         reads("a kind without a name", -1, 10);
         reads("a name without its 0", -1, 10, 'a');
+        for (int kind : new int[] {2, 3, 4, 8, 10, 16, 18}) {
+            for (int letters = 0; letters <= 12; letters++) {
+                int[] element = new int[letters + 1];
+                Arrays.fill(element, 'x');
+                element[0] = kind;
+                reads("kind " + kind + " and " + letters + " letters without a 0", -1, element);
+            }
+        }
         reads("a second element without its name", -1, 10, 'a', 0, 10);
         reads("a second name without its 0", -1, 10, 'a', 0, 10, 'b');
         for (int letter = 1; letter < 256; letter++) {
