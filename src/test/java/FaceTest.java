@@ -6,14 +6,18 @@ import java.nio.file.Files;
 import java.nio.file.Path;
 import java.util.Set;
 import java.util.TreeSet;
+import java.util.regex.Matcher;
+import java.util.regex.Pattern;
 
 /** The public face of the document, and the rules of the language that can be seen from outside. */
 public final class FaceTest {
+    private static final Path DOCUMENT = Path.of("../shared/DOC.md");
     private static final Set<String> FACE = Set.of("feed/5", "read/2", "filter/2", "place/0", "many/2", "holds/2",
             "fails/2", "which/1");
 
     public static void main(String[] args) throws IOException {
         face();
+        documentsFace();
         classesInside();
         source();
         Check.end();
@@ -35,6 +39,21 @@ public final class FaceTest {
         for (Field field : face.getDeclaredFields()) {
             Check.due(field + " is private", Modifier.isPrivate(field.getModifiers()) ? 1 : 0, 1);
         }
+    }
+
+    /** That the methods asked for above are those of the document. */
+    private static void documentsFace() throws IOException {
+        if (!Files.exists(DOCUMENT)) {
+            System.out.println("not tested: there is no " + DOCUMENT);
+            return;
+        }
+        Set<String> methods = new TreeSet<>();
+        Matcher line = Pattern.compile("    public int (\\w+)\\((.*)\\);").matcher(Files.readString(DOCUMENT));
+        while (line.find()) {
+            int parameters = line.group(2).isEmpty() ? 0 : line.group(2).split(",").length;
+            methods.add(line.group(1) + "/" + parameters);
+        }
+        Check.due("methods of the document " + methods, methods.equals(new TreeSet<>(FACE)) ? 1 : 0, 1);
     }
 
     private static void classesInside() {
